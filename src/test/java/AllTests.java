@@ -13,6 +13,7 @@ public final class AllTests {
         TextsTest.run();
         SheetsTest.run();
         ImagesTest.run();
+        FindingsTest.run();
         ModelTest.run();
         LanguageTest.run(args.length > 0 ? args[0] : "src/main/java/ChainedChest.java");
         for (int promise = 1; promise <= Check.PROMISES; promise++) {

@@ -35,10 +35,13 @@ final class ImagesTest {
         for (int what = 0; what < 10; what++) {
             x.change(0, what, 2);
         }
+        x.change(0, 8, 0);
+        x.change(0, 5, 0);
         x.shut();
-        x.off(1);
         x.off(0);
         x.lock(6);
+        Check.due(45, "another CLOCK till then", x.now(0) == 10 ? 1 : 0, 0);
+        Check.due(45, "others OFF till then", x.now(2), 1);
         for (int what = 0; what < 5; what++) {
             x.rule(what, 5);
         }
@@ -62,10 +65,15 @@ final class ImagesTest {
         Check.due(45, "SPOTS", x.count(7), 1);
         Check.due(45, "it stays kept", x.undo(), 10);
         Check.due(45, "once more", x.rule(0, 0), 3);
+        x.change(0, 8, 0);
+        x.change(0, 9, 0);
+        x.change(0, 6, 0);
         x.off(0);
         Check.due(44, "a later one", x.image(), 1);
+        int clock = x.now(0);
         x.shut();
-        Check.due(45, "the latest", x.undo(), x.now(0));
+        Check.due(45, "the latest", x.undo(), clock);
+        Check.due(45, "both OFF", x.now(2), 3);
     }
 
     private static void fewerLocks() {

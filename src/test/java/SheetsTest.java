@@ -73,7 +73,8 @@ final class SheetsTest {
         Check.fill(x, 1, 8, 1, 2, 0);
         Check.due(39, "1 2 0", x.judge(1), 0);
         Check.due(39, "anew", x.sheet(1, 8, 2), 2);
-        Check.due(39, "all 0", x.judge(1), 2);
+        Check.due(39, "all 0: no TIMES", x.load(1), 0);
+        Check.due(39, "all 0: LOCK 0 twice", x.judge(1), 2);
         Check.due(39, "n is kept to", x.write(1, 2, 0), Check.BEYOND);
         Check.due(39, "SIZE told", x.status(6), 2);
         Check.due(39, "BEYOND told", x.status(0), 7);

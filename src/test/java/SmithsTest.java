@@ -137,6 +137,16 @@ final class SmithsTest {
     }
 
     private static void linkOfNone() {
+        ChainedChest z = Check.with(0, 0);
+        z.rule(2, 1);
+        Check.due(25, "linked() by itself", z.linked(), 20);
+        Check.due(24, "0 behind 1", z.link(), 1);
+        z.change(0, 6, 1);
+        Check.due(24, "no more", z.link(), Check.NONE);
+        z.change(0, 6, 0);
+        Check.due(24, "again", z.link(), 1);
+        z.change(0, 6, 1);
+        Check.due(25, "no more", z.linked(), Check.NONE);
         ChainedChest x = Check.with(0);
         Check.due(24, "no two", x.link(), Check.NONE);
         Check.due(25, "no two", x.linked(), Check.NONE);

@@ -44,6 +44,10 @@ final class SoundsTest {
         Check.due(28, "0, 3", x.fits(0), 1);
         Check.due(29, "0, 3", x.maybe(0), 9);
         Check.due(30, "0, 3", x.surely(0), 9);
+        Check.fill(x, 0, 32, 2);
+        Check.due(29, "maybe() by itself", x.maybe(0), 3);
+        Check.fill(x, 0, 32, 2, 4);
+        Check.due(30, "surely() by itself", x.surely(0), 9);
         Check.fill(x, 0, 8, 2, 0, 2, 4);
         Check.due(28, "0213, 1203", x.fits(0), 2);
         Check.fill(x, 0, 8, 2, 0, 4);

@@ -95,6 +95,16 @@ final class TextsTest {
         fault("5", 0);
         fault("door", 0);
         fault("lockx", 0);
+        fault("lockz", 0);
+        fault("alock", 0);
+        fault("dock", 0);
+        fault("lock zime 3", 5);
+        fault("`lock", 0);
+        fault("{", 0);
+        fault("/", 0);
+        fault(":", 0);
+        fault("lock time 3:", 11);
+        fault("lock time /", 10);
         fault("loc", 0);
         fault("Lock", 0);
         fault("time 3", 0);

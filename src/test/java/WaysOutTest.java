@@ -26,7 +26,9 @@ final class WaysOutTest {
         Check.due(18, "OUT: states", x.states(), 4);
         Check.due(19, "OUT: the row without STEPS", x.rows(), 1);
         x.rule(2, 1);
+        Check.due(13, "not OUT yet", x.ith(0), 0);
         x.off(0);
+        Check.due(13, "OUT by a STEP: no row", x.ith(0), Check.NONE);
         Check.due(12, "OUT by a STEP", x.soonest(), 0);
         Check.due(16, "OUT by a STEP: CLOCK", x.ahead(0), 10);
         Check.due(17, "what is OFF can't come off", x.ever(), 2);
@@ -144,18 +146,31 @@ final class WaysOutTest {
         Check.due(16, "HEARD in the row alone", x.ahead(1), 0);
         Check.due(16, "CLOCK at its end", x.ahead(0), 32);
         Check.due(11, "HEARD till now", x.now(1), 2);
+        // CHAIN 0 at 0, CHAIN 1 at 10 for 13, and BOLT 2 at 23
+        ChainedChest y = Check.with(2, 2, 6);
+        y.rule(2, 7);
+        y.change(1, 8, 1);
+        y.change(2, 8, 2);
+        y.rule(3, 10);
+        y.rule(4, 13);
+        Check.due(16, "still at 10, plays at 23", y.ahead(1), 5);
+        y.rule(3, 9);
+        Check.due(16, "still at 10, plays at 22 to 30", y.ahead(1), 5);
+        y.rule(3, 11);
+        Check.due(16, "plays at 10, still at 23", y.ahead(1), 2);
+        Check.due(16, "CLOCK", y.ahead(0), 33);
     }
 
     private static void counting() {
         ChainedChest x = Check.with(0, 0, 0);
         x.rule(2, 1);
         // 0; 10; 20; 120; 210
-        Check.due(19, "no STEPS behind OUT", x.rows(), 5);
         Check.due(18, "states behind OUT, too", x.states(), 8);
+        Check.due(19, "no STEPS behind OUT", x.rows(), 5);
         x.change(0, 8, 2);
         // 10; 120; 210
-        Check.due(19, "0 waits for 1", x.rows(), 3);
         Check.due(18, "states", x.states(), 6);
+        Check.due(19, "0 waits for 1", x.rows(), 3);
         x.change(1, 9, 4);
         // 10; 120
         Check.due(19, "1 goes while 2 is ON", x.rows(), 2);
