@@ -5,6 +5,7 @@ final class SmithsTest {
 
     static void run() {
         tools();
+        fewerTools();
         spare();
         wire();
         kindFor();
@@ -42,6 +43,20 @@ final class SmithsTest {
         x.change(0, 3, 40);
         Check.due(20, "NONE", x.tools(), Check.NONE);
         Check.due(20, "his TOOLS stay then, too", x.rule(0, 15), 15);
+    }
+
+    private static void fewerTools() {
+        // 1 and 2 (the set 3) would give the slack, and so would 3 alone (the set 4)
+        ChainedChest x = Check.with(0, 0, 0, 0);
+        x.rule(2, 1);
+        x.change(0, 3, 5);
+        for (int l = 1; l < 4; l++) {
+            x.change(l, 2, l < 3 ? 3 : 9);
+            x.change(l, 6, l);
+        }
+        Check.due(20, "one TOOL, not the least set", x.tools(), 4);
+        x.change(3, 2, 1);
+        Check.due(20, "two now", x.tools(), 3);
     }
 
     private static void spare() {

@@ -47,6 +47,7 @@ final class StepsTest {
         x.rule(2, 2);
         Check.due(16, "100000 ahead", x.ahead(0), Check.STATE);
         Check.due(16, "HEARD of it, too", x.ahead(1), Check.STATE);
+        Check.due(48, "STATE told of each", x.status(4), 4);
         Check.due(16, "soonest doesn't ask CLOCK", x.soonest(), 40);
         x.change(1, 1, 39);
         Check.due(16, "99999 ahead", x.ahead(0), 99999);

@@ -159,6 +159,18 @@ final class WaysOutTest {
         y.rule(3, 11);
         Check.due(16, "plays at 10, still at 23", y.ahead(1), 2);
         Check.due(16, "CLOCK", y.ahead(0), 33);
+        // The LOCK gives 9: the NAIL takes 3 at 10, and the CHAIN goes at 13
+        ChainedChest z = Check.with(0, 5, 2);
+        z.rule(2, 7);
+        z.change(0, 2, 9);
+        z.change(1, 8, 1);
+        z.change(2, 8, 2);
+        z.rule(3, 13);
+        z.rule(4, 1);
+        Check.due(16, "still at 13 alone", z.ahead(1), 5);
+        z.rule(3, 12);
+        Check.due(16, "plays at 13 again", z.ahead(1), 0);
+        Check.due(16, "CLOCK", z.ahead(0), 29);
     }
 
     private static void counting() {
