@@ -862,7 +862,7 @@ public final class ChainedChest {
         static final int TIME = 0;
         static final int SOUND = 1;
         static final int STEPS = 2;
-        static final int NO_WAY = Integer.MAX_VALUE;
+        static final int NO_WAY = 2147483647;
         /** Odds are told in parts of this: ten tenths for each of ten LOCKS, so that no quotient is cut. */
         static final long SURE = 10000000000L;
         private static final int UNREACHED = -1;
@@ -877,6 +877,7 @@ public final class ChainedChest {
         private final int[] linkedSums = new int[STATES];
         private final int[] row = new int[Chest.MOST_LOCKS];
         private int rowLength = 0;
+        private int rowTime = 0;
         private int fittingRows = 0;
         private int fittingAny = 0;
         private int fittingAll = 0;
@@ -889,11 +890,11 @@ public final class ChainedChest {
         void explore(int start) {
             int last = chest.allLocks();
             Arrays.fill(mays, UNREACHED);
-            if (start < 0 || start >= STATES || last >= STATES) {
+            if (!isState(start)) {
                 return;
             }
             mays[start] = 0;
-            for (int s = start; s <= last; s++) {
+            for (int s = start; s <= last && s < STATES; s++) {
                 if (mays[s] != UNREACHED) {
                     slacks[s] = chest.slackAt(s);
                     hands[s] = Integer.bitCount(chest.freeAt(s));
@@ -905,10 +906,15 @@ public final class ChainedChest {
 
         private void markFollowers(int s, int set) {
             for (int l = 0; l < Chest.MOST_LOCKS; l++) {
-                if ((set >> l & 1) != 0) {
-                    mays[s | 1 << l] = 0;
+                int next = s | 1 << l;
+                if ((set >> l & 1) != 0 && isState(next)) {
+                    mays[next] = 0;
                 }
             }
+        }
+
+        private static boolean isState(int s) {
+            return s >= 0 && s < STATES;
         }
 
         int leastFrom(int start, int measure) {
@@ -918,7 +924,7 @@ public final class ChainedChest {
 
         /** The least sum from each explored state on: the WAYS OUT from its followers are settled ahead of it. */
         int settle(int start, int measure) {
-            if (start < 0 || start >= STATES) {
+            if (!isState(start)) {
                 return NO_WAY;
             }
             for (int s = STATES - 1; s >= start; s--) {
@@ -934,7 +940,7 @@ public final class ChainedChest {
          * Only where both are ON does the link bar a STEP: the other states keep their sums.
          */
         int settleLinked(int start, int a, int b) {
-            if (start < 0 || start >= STATES) {
+            if (!isState(start)) {
                 return NO_WAY;
             }
             int both = 1 << a | 1 << b;
@@ -952,7 +958,7 @@ public final class ChainedChest {
             int howManyOff = Integer.bitCount(s);
             for (int l = 0; l < Chest.MOST_LOCKS; l++) {
                 int next = s | 1 << l;
-                if ((set >> l & 1) != 0 && next < rests.length && rests[next] != NO_WAY) {
+                if ((set >> l & 1) != 0 && next >= 0 && next < rests.length && rests[next] != NO_WAY) {
                     int sum = rests[next] + cost(l, s, howManyOff, measure);
                     least = sum < least ? sum : least;
                 }
@@ -961,6 +967,9 @@ public final class ChainedChest {
         }
 
         private int cost(int lock, int s, int howManyOff, int measure) {
+            if (!isState(s)) {
+                return 0;
+            }
             switch (measure) {
                 case TIME: return chest.takes(lock, slacks[s], hands[s], howManyOff);
                 case SOUND: return chest.sounds(lock);
@@ -970,7 +979,8 @@ public final class ChainedChest {
 
         boolean findRow(int start) {
             rowLength = 0;
-            if (leastFrom(start, TIME) == NO_WAY) {
+            rowTime = leastFrom(start, TIME);
+            if (rowTime == NO_WAY) {
                 return false;
             }
             int s = start;
@@ -988,12 +998,11 @@ public final class ChainedChest {
 
         private int firstBest(int s) {
             int howManyOff = Integer.bitCount(s);
-            for (int l = 0; l < Chest.MOST_LOCKS; l++) {
-                if ((mays[s] >> l & 1) != 0) {
-                    int rest = sums[s | 1 << l];
-                    if (rest != NO_WAY && rest + cost(l, s, howManyOff, TIME) == sums[s]) {
-                        return l;
-                    }
+            for (int l = 0; l < Chest.MOST_LOCKS && isState(s); l++) {
+                int next = s | 1 << l;
+                boolean leadsOut = (mays[s] >> l & 1) != 0 && isState(next) && sums[next] != NO_WAY;
+                if (leadsOut && sums[next] + cost(l, s, howManyOff, TIME) == sums[s]) {
+                    return l;
                 }
             }
             return Chest.NOTHING;
@@ -1008,14 +1017,14 @@ public final class ChainedChest {
         }
 
         int rowEnd() {
-            return chest.clock + sums[chest.open];
+            return chest.clock + rowTime;
         }
 
         int rowHeard() {
             int s = chest.open;
             int minute = chest.clock;
             int heard = 0;
-            for (int i = 0; i < rowLength; i++) {
+            for (int i = 0; i < rowLength && i < Chest.MOST_LOCKS; i++) {
                 if (!chest.playsAt(minute)) {
                     heard += chest.sounds(row[i]);
                 }
@@ -1058,9 +1067,7 @@ public final class ChainedChest {
         }
 
         int waysOut() {
-            explore(chest.open);
-            Arrays.fill(sums, 0);
-            sums[chest.open] = 1;
+            exploreRows();
             int rows = 0;
             for (int s = 0; s < STATES; s++) {
                 if (sums[s] != 0 && chest.isOutAt(s)) {
@@ -1072,10 +1079,20 @@ public final class ChainedChest {
             return rows;
         }
 
+        /** The sums are now how many rows come to a state: one, the row without STEPS, to this one. */
+        private void exploreRows() {
+            explore(chest.open);
+            Arrays.fill(sums, 0);
+            if (isState(chest.open)) {
+                sums[chest.open] = 1;
+            }
+        }
+
         private void handOn(int s, int set) {
-            for (int l = 0; l < Chest.MOST_LOCKS; l++) {
-                if ((set >> l & 1) != 0) {
-                    sums[s | 1 << l] += sums[s];
+            for (int l = 0; l < Chest.MOST_LOCKS && isState(s); l++) {
+                int next = s | 1 << l;
+                if ((set >> l & 1) != 0 && isState(next)) {
+                    sums[next] += sums[s];
                 }
             }
         }
@@ -1103,9 +1120,7 @@ public final class ChainedChest {
         }
 
         void listen(Sheet sheet) {
-            explore(chest.open);
-            Arrays.fill(sums, 0);
-            sums[chest.open] = 1;
+            exploreRows();
             fittingRows = 0;
             fittingAny = 0;
             fittingAll = chest.allLocks();

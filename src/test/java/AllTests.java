@@ -14,7 +14,16 @@ public final class AllTests {
         SheetsTest.run();
         ImagesTest.run();
         FindingsTest.run();
+        TermsEdgesTest.run();
+        TextsEdgesTest.run();
+        LocksEdgesTest.run();
+        WaysEdgesTest.run();
+        SmithsEdgesTest.run();
+        SoundsEdgesTest.run();
+        SheetsEdgesTest.run();
+        ImagesEdgesTest.run();
         ModelTest.run();
+        WildTest.run();
         LanguageTest.run(args.length > 0 ? args[0] : "src/main/java/ChainedChest.java");
         for (int promise = 1; promise <= Check.PROMISES; promise++) {
             Check.isTrue("promise " + promise + " has a test", Check.asked(promise) > 0);

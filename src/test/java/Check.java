@@ -12,6 +12,9 @@ final class Check {
     private static final int[] asked = new int[PROMISES + 1];
     private static int passed = 0;
     private static int failed = 0;
+    private static int promiseNow = 0;
+    private static String sentence = "";
+    private static int edges = 0;
 
     private Check() {
     }
@@ -31,6 +34,24 @@ final class Check {
         due(0, what, holds ? 1 : 0, 1);
     }
 
+    /** From here on edge() asks for a sentence of the document: of a promise, or of the Terms (0). */
+    static void sentence(int promise, String words) {
+        closeSentence();
+        promiseNow = promise;
+        sentence = words;
+        edges = 0;
+    }
+
+    static void edge(String what, long got, long want) {
+        edges++;
+        due(promiseNow, "\"" + sentence + "\": " + what, got, want);
+    }
+
+    /** A sentence for which nothing was asked has no test. */
+    private static void closeSentence() {
+        isTrue("\"" + sentence + "\" has a test", edges > 0 || sentence.isEmpty());
+    }
+
     static int asked(int promise) {
         return asked[promise];
     }
@@ -40,6 +61,7 @@ final class Check {
     }
 
     static void close() {
+        closeSentence();
         System.out.println(passed + " passed, " + failed + " failed");
     }
 
@@ -49,6 +71,21 @@ final class Check {
             x.lock(kind);
         }
         return x;
+    }
+
+    static ChainedChest tenLocks() {
+        return with(0, 0, 0, 0, 0, 0, 0, 0, 0, 0);
+    }
+
+    /** z behind one draw, by long numbers, so that no wrapping of an int is leaned on. */
+    static long nextZ(long z) {
+        long next = Math.floorMod(z * 1103515245L + 12345, 1L << 32);
+        return next >= 1L << 31 ? next - (1L << 32) : next;
+    }
+
+    /** What a draw gives that made this z. */
+    static int draw(long z) {
+        return (int) (Math.floorMod(z, 1L << 32) / 256);
     }
 
     /** Feeds a text as it stands, four bytes a call. */

@@ -93,7 +93,7 @@ final class LanguageTest {
     private static void words(String code) {
         String[] banned = {"throw", "throws", "try", "catch", "finally", "synchronized", "assert", "package", "protected",
             "Exception", "Error", "equals", "hashCode", "toString", "Object", "instanceof", "float", "double",
-            "System\\.(?!arraycopy)", "Random", "Thread", "String\\.", "Exact"};
+            "MAX_VALUE", "MIN_VALUE", "System\\.(?!arraycopy)", "Random", "Thread", "String\\.", "Exact"};
         for (String word : banned) {
             Check.isTrue("no " + word, !Pattern.compile("\\b" + word + (word.endsWith(")") ? "" : "\\b")).matcher(code).find()
                 || word.equals("String\\."));

@@ -5,7 +5,6 @@ final class StepsTest {
 
     static void run() {
         off();
-        clockLimit();
         now();
         band();
     }
@@ -25,34 +24,6 @@ final class StepsTest {
         Check.due(10, "lock -1", x.off(-1), Check.BEYOND);
         Check.due(10, "BEYOND", x.status(0), 2);
         Check.due(10, "STATE", x.status(4), 2);
-    }
-
-    private static void clockLimit() {
-        // A BOLT with no HANDS takes 120: 833 of them are 99960, and one LOCK of 39 fills the CLOCK.
-        // No 512 calls come so far: what is asked here is free, but ours.
-        ChainedChest x = Check.with(6, 0);
-        x.change(0, 1, 60);
-        x.change(0, 5, 0);
-        x.change(0, 4, 3);
-        x.change(1, 5, 0);
-        x.change(1, 1, 39);
-        for (int i = 0; i < 833; i++) {
-            x.off(0);
-            x.on(0);
-        }
-        Check.due(10, "CLOCK by 833 BOLTS", x.now(0), 99960);
-        Check.due(10, "one more is above", x.off(0), Check.STATE);
-        x.change(1, 1, 40);
-        Check.due(10, "100000", x.off(1), Check.STATE);
-        x.rule(2, 2);
-        Check.due(16, "100000 ahead", x.ahead(0), Check.STATE);
-        Check.due(16, "HEARD of it, too", x.ahead(1), Check.STATE);
-        Check.due(48, "STATE told of each", x.status(4), 4);
-        Check.due(16, "soonest doesn't ask CLOCK", x.soonest(), 40);
-        x.change(1, 1, 39);
-        Check.due(16, "99999 ahead", x.ahead(0), 99999);
-        Check.due(10, "99999", x.off(1), 39);
-        Check.due(10, "CLOCK is full", x.now(0), 99999);
     }
 
     private static void now() {
