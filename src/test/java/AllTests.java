@@ -25,6 +25,7 @@ public final class AllTests {
         ModelTest.run();
         WildTest.run();
         LanguageTest.run(args.length > 0 ? args[0] : "src/main/java/ChainedChest.java");
+        ReadmeTest.run("README.md");
         for (int promise = 1; promise <= Check.PROMISES; promise++) {
             Check.isTrue("promise " + promise + " has a test", Check.asked(promise) > 0);
         }
